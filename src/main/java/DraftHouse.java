@@ -109,9 +109,6 @@ public final class DraftHouse {
     }
 
     public int fault(int what) {
-        if (!reader.hasRead) {
-            return NONE;
-        }
         if (what == 0) {
             return reader.fault;
         }
@@ -310,10 +307,13 @@ public final class DraftHouse {
     }
 
     public int shifted(boolean ends) {
-        cloth.weave();
+        if (countCells(sight.rows) != cellsUp()) {
+            return NONE;
+        }
+        int first = firstPickUp();
         for (int dy = 0; dy < high; dy++) {
             for (int dx = 0; dx < wide; dx++) {
-                if (sight.isMoved(dx, dy)) {
+                if (sight.isMoved(first, dx, dy)) {
                     return ends ? dx : dy;
                 }
             }
@@ -432,11 +432,25 @@ public final class DraftHouse {
 
     private int cellsUp() {
         cloth.weave();
+        return countCells(cloth.rows);
+    }
+
+    private static int countCells(long[] rows) {
         int count = 0;
-        for (int pick = 0; pick < high; pick++) {
-            count += Long.bitCount(cloth.rows[pick]);
+        for (long row : rows) {
+            count += Long.bitCount(row);
         }
         return count;
+    }
+
+    /** The first PICK with a CELL that is UP, 0 without: bare rows would fit nearly everywhere. */
+    private int firstPickUp() {
+        for (int pick = 0; pick < high; pick++) {
+            if (cloth.rows[pick] != 0L) {
+                return pick;
+            }
+        }
+        return 0;
     }
 
     private int threadedEnds() {
@@ -807,9 +821,9 @@ public final class DraftHouse {
         private int shape;
         private int first;
         private int firstPlace;
-        private boolean hasRead;
-        private int fault;
-        private int faultPlace;
+        /** NONE ahead of any text. */
+        private int fault = NONE;
+        private int faultPlace = NONE;
 
         private Reader(Tape tape, Ledger ledger, int wide, int high) {
             this.tape = tape;
@@ -819,7 +833,6 @@ public final class DraftHouse {
         }
 
         private void readTape() {
-            hasRead = true;
             fault = 0;
             faultPlace = NONE;
             Arrays.fill(blockSizes, 0);
@@ -828,7 +841,18 @@ public final class DraftHouse {
             state = NEW_CLAUSE;
             for (int tokens = 0; tokens <= MOST_BYTES && state != READ; tokens++) {
                 tape.advance();
+                endWhatCannotGoOn();
                 step();
+            }
+        }
+
+        /** A NUMBER may be a ONE, and a ONE an ITEM, by what stands behind it: with that they are done. */
+        private void endWhatCannotGoOn() {
+            if (state == BEHIND_NUMBER && tape.kind != Tape.TO) {
+                endNumber();
+            }
+            if (state == BEHIND_ONE && tape.kind != '*') {
+                state = BEHIND_ITEM;
             }
         }
 
@@ -860,7 +884,7 @@ public final class DraftHouse {
                     startOne();
                     break;
                 case BEHIND_NUMBER:
-                    goOnBehindNumber();
+                    state = LAST_OF_RANGE;
                     break;
                 case LAST_OF_RANGE:
                     endRange();
@@ -872,7 +896,7 @@ public final class DraftHouse {
                     openBracket();
                     break;
                 case BEHIND_ONE:
-                    goOnBehindOne();
+                    state = TIMES;
                     break;
                 case TIMES:
                     copyItem();
@@ -881,7 +905,6 @@ public final class DraftHouse {
                     goOnBehindItem();
                     break;
                 default:
-                    fail(CANNOT_STAND);
                     break;
             }
         }
@@ -989,14 +1012,12 @@ public final class DraftHouse {
             }
         }
 
-        private void goOnBehindNumber() {
-            if (tape.kind == Tape.TO) {
-                state = LAST_OF_RANGE;
-            } else if (!hasRoom(1)) {
-                failAt(TOO_MANY, firstPlace);
-            } else {
+        private void endNumber() {
+            if (hasRoom(1)) {
                 add(first);
-                goOnBehindOne();
+                state = BEHIND_ONE;
+            } else {
+                failAt(TOO_MANY, firstPlace);
             }
         }
 
@@ -1086,14 +1107,6 @@ public final class DraftHouse {
         private void raiseNumbers(int from, int to, int by) {
             for (int i = from; i < to; i++) {
                 put(i, numberAt(i) + by & SHAFTS - 1);
-            }
-        }
-
-        private void goOnBehindOne() {
-            if (tape.kind == '*') {
-                state = TIMES;
-            } else {
-                goOnBehindItem();
             }
         }
 
@@ -1475,6 +1488,7 @@ public final class DraftHouse {
     private static final class Covering {
         private static final int MOST_LIFTS = 5;
         private static final int MOST_TIES = 31;
+        private static final int MOST_GIFTS = 55;
 
         private final Cloth cloth;
         private final int[] lifts = new int[MOST_LIFTS];
@@ -1486,6 +1500,8 @@ public final class DraftHouse {
         private final long[] gifts = new long[MOST_TIES];
         /** What the TIES from each one on give together. */
         private final long[] laterGifts = new long[MOST_TIES + 1];
+        /** For each gift what all TIES that give it give together. */
+        private final long[] sharedGifts = new long[MOST_GIFTS];
         private int giftCount;
         private final int[] patterns = new int[SHAFTS];
         private final int[] chosen = new int[MOST_LIFTS];
@@ -1580,9 +1596,19 @@ public final class DraftHouse {
                     }
                 }
             }
-            laterGifts[tieCount] = 0L;
-            for (int i = tieCount - 1; i >= 0; i--) {
+            gatherGifts();
+        }
+
+        private void gatherGifts() {
+            Arrays.fill(laterGifts, 0L);
+            Arrays.fill(sharedGifts, 0L);
+            for (int i = MOST_TIES - 1; i >= 0; i--) {
                 laterGifts[i] = laterGifts[i + 1] | gifts[i];
+                for (int gift = 0; gift < MOST_GIFTS; gift++) {
+                    if (has(gifts[i], gift)) {
+                        sharedGifts[gift] |= gifts[i];
+                    }
+                }
             }
         }
 
@@ -1608,12 +1634,23 @@ public final class DraftHouse {
 
         /** The LIFTS themselves are always a COVER, so that more TIES than LIFTS are never needed. */
         private void findLeast() {
-            for (size = 0; size < liftCount; size++) {
-                if (choose(0, 0, 0L)) {
-                    return;
+            boolean done = false;
+            for (int tried = 0; tried <= liftCount && !done; tried++) {
+                size = tried;
+                done = choose(0, 0, 0L);
+            }
+        }
+
+        /** Counts missing gifts no two of which one TIE could give: without this, some choices take far too long. */
+        private boolean needsMore(long missing, int left) {
+            long open = missing;
+            for (int i = 0; i < left && open != 0L; i++) {
+                int gift = Long.numberOfTrailingZeros(open);
+                if (gift < MOST_GIFTS) {
+                    open &= ~sharedGifts[gift];
                 }
             }
-            choose(0, 0, 0L);
+            return open != 0L;
         }
 
         /** Goes through choices in the order of their sets, so that the first one found is the first of all. */
@@ -1621,6 +1658,9 @@ public final class DraftHouse {
             long all = firstBits(giftCount);
             if (depth >= size || depth >= MOST_LIFTS) {
                 return given == all;
+            }
+            if (needsMore(all & ~given, size - depth)) {
+                return false;
             }
             for (int i = from; i < tieCount && i < MOST_TIES; i++) {
                 if ((given | laterGifts[i]) != all) {
@@ -1659,32 +1699,57 @@ public final class DraftHouse {
             }
         }
 
-        private boolean isMoved(int dx, int dy) {
+        /** The ENDS that are UP on just these PICKS. */
+        private long endsLike(long picks) {
+            long ends = 0L;
+            for (int end = 0; end < cloth.wide && end < MOST_THREADS; end++) {
+                if (columns[end] == picks) {
+                    ends |= 1L << end;
+                }
+            }
+            return ends;
+        }
+
+        /** Compares all PICKS, from the first given one on. */
+        private boolean isMoved(int first, int dx, int dy) {
             boolean like = true;
-            int to = dy;
-            for (int pick = 0; pick < cloth.high && like; pick++) {
-                like = to >= 0 && to < MOST_THREADS && rows[to] == moved(cloth.rows[pick], cloth.wide, dx);
-                to = to + 1 < cloth.high ? to + 1 : 0;
+            int high = cloth.high;
+            for (int i = 0; i < high && like; i++) {
+                int from = wrapped(first + i, high);
+                int to = wrapped(from + dy, high);
+                like = rowAt(rows, to) == moved(rowAt(cloth.rows, from), cloth.wide, dx);
             }
             return like;
+        }
+
+        private static int wrapped(int pick, int high) {
+            return pick < high ? pick : pick - high;
+        }
+
+        private static long rowAt(long[] rows, int pick) {
+            return pick >= 0 && pick < rows.length ? rows[pick] : 0L;
         }
     }
 
     /** The nearest draft by which all CELLS are as SEEN. */
     private static final class Mending {
-        /** Stands for NONE in a set of SHAFTS, behind them all. */
-        private static final int WITHOUT = SHAFTS;
-
         private final Cloth cloth;
         private final Ledger ledger;
         private final Sight sight;
-        /** For each END the SHAFTS that would do for it, with the TIES as they are. */
-        private final int[] fitting = new int[MOST_THREADS];
-        private final int[] shafts = new int[MOST_THREADS];
+        /** For each SHAFT the ENDS that it would do for, with the TIES as they are. */
+        private final long[] fitting = new long[SHAFTS];
+        /** The ENDS that do without a SHAFT. */
+        private long bare;
+        /** The ENDS that nothing would do for, and those that more than one thing would do for. */
+        private long hopeless;
+        private long easy;
+        /** The ENDS that need another SHAFT, or none. */
+        private long misled;
         private boolean found;
         private int cost;
         private int treadle;
         private int shaft;
+        private final int[] shafts = new int[MOST_THREADS];
         private int clothEdition;
         private int sightEdition;
 
@@ -1700,45 +1765,51 @@ public final class DraftHouse {
             }
             clothEdition = cloth.edition;
             sightEdition = sight.edition;
-            found = false;
             fitEnds();
-            weigh(NONE, NONE);
+            weighThreading();
             for (int changed = 0; changed < TREADLES; changed++) {
                 for (int toggled = 0; toggled < SHAFTS; toggled++) {
-                    weigh(changed, toggled);
+                    weighTie(changed, toggled);
                 }
             }
-            if (found) {
-                settle();
-            }
+            settle();
         }
 
         private void fitEnds() {
-            for (int end = 0; end < cloth.wide && end < MOST_THREADS; end++) {
-                long due = sight.columns[end];
-                int fits = due == 0L ? 1 << WITHOUT : 0;
-                for (int candidate = 0; candidate < SHAFTS; candidate++) {
-                    if (cloth.shaftPicks[candidate] == due) {
-                        fits |= 1 << candidate;
-                    }
-                }
-                fitting[end] = fits;
+            bare = sight.endsLike(0L);
+            long some = bare;
+            long unthreaded = cloth.allEnds;
+            easy = 0L;
+            misled = 0L;
+            for (int candidate = 0; candidate < SHAFTS; candidate++) {
+                long fits = sight.endsLike(cloth.shaftPicks[candidate]);
+                long owners = cloth.shaftEnds[candidate];
+                fitting[candidate] = fits;
+                easy |= some & fits;
+                some |= fits;
+                misled |= owners & ~fits;
+                unthreaded &= ~owners;
             }
+            misled |= unthreaded & ~bare;
+            hopeless = cloth.allEnds & ~some;
         }
 
-        /** Changes are weighed in the order of like ones, so that only a lower cost takes their place. */
-        private void weigh(int changed, int toggled) {
-            long picks = picksAfter(changed, toggled);
-            int total = changed == NONE ? 0 : 1;
-            for (int end = 0; end < cloth.wide; end++) {
-                int fits = fitsAfter(end, toggled, picks);
-                if (fits == 0) {
-                    return;
-                }
-                if (!has(fits, memberOf(ownShaft(end)))) {
-                    total++;
-                }
+        private void weighThreading() {
+            found = hopeless == 0L;
+            cost = Long.bitCount(misled);
+            treadle = NONE;
+            shaft = NONE;
+        }
+
+        /** Changes come in the order of like ones, so that only a lower cost takes their place. */
+        private void weighTie(int changed, int toggled) {
+            long fits = sight.endsLike(picksAfter(changed, toggled));
+            long alone = fitting[toggled] & ~easy;
+            if (((hopeless | alone) & ~fits) != 0L) {
+                return;
             }
+            long owners = cloth.shaftEnds[toggled];
+            int total = 1 + Long.bitCount(misled & ~owners | owners & ~fits);
             if (!found || total < cost) {
                 found = true;
                 cost = total;
@@ -1749,9 +1820,6 @@ public final class DraftHouse {
 
         /** The PICKS that lift a SHAFT when it is put into a TREADLE's TIE, or out of it. */
         private long picksAfter(int changed, int toggled) {
-            if (toggled == NONE) {
-                return 0L;
-            }
             long picks = 0L;
             for (int at = 0; at < TREADLES; at++) {
                 boolean tied = has(ledger.valueOf(TIE_OF_TREADLE + at), toggled);
@@ -1762,36 +1830,27 @@ public final class DraftHouse {
             return picks;
         }
 
-        private int fitsAfter(int end, int toggled, long picks) {
-            if (end < 0 || end >= MOST_THREADS) {
-                return 0;
+        private void settle() {
+            if (shaft >= 0 && shaft < SHAFTS) {
+                fitting[shaft] = sight.endsLike(picksAfter(treadle, shaft));
             }
-            if (toggled == NONE) {
-                return fitting[end];
+            for (int end = 0; end < cloth.wide && end < MOST_THREADS; end++) {
+                int own = ledger.valueOf(SHAFT_OF_END + end);
+                shafts[end] = fits(end, own) ? own : firstFitting(end);
             }
-            int mark = 1 << toggled;
-            return sight.columns[end] == picks ? fitting[end] | mark : fitting[end] & ~mark;
         }
 
-        private void settle() {
-            long picks = picksAfter(treadle, shaft);
-            for (int end = 0; end < cloth.wide && end < MOST_THREADS; end++) {
-                int fits = fitsAfter(end, shaft, picks);
-                int own = ownShaft(end);
-                if (has(fits, memberOf(own))) {
-                    shafts[end] = own;
-                } else {
-                    shafts[end] = has(fits, WITHOUT) ? NONE : Integer.numberOfTrailingZeros(fits);
+        private boolean fits(int end, int candidate) {
+            return has(candidate >= 0 && candidate < SHAFTS ? fitting[candidate] : bare, end);
+        }
+
+        private int firstFitting(int end) {
+            for (int candidate = NONE; candidate < SHAFTS; candidate++) {
+                if (fits(end, candidate)) {
+                    return candidate;
                 }
             }
-        }
-
-        private int ownShaft(int end) {
-            return ledger.valueOf(SHAFT_OF_END + end);
-        }
-
-        private static int memberOf(int shaft) {
-            return shaft == NONE ? WITHOUT : shaft;
+            return NONE;
         }
     }
 }
