@@ -262,7 +262,7 @@ public final class DraftHouse {
         if (!isPick(pick)) {
             return false;
         }
-        sight.record(pick, row & cloth.allEnds);
+        sight.noteRow(pick, row & cloth.allEnds);
         return true;
     }
 
@@ -310,7 +310,7 @@ public final class DraftHouse {
         if (countCells(sight.rows) != cellsUp()) {
             return NONE;
         }
-        int first = firstPickUp();
+        int first = firstMixedPick();
         for (int dy = 0; dy < high; dy++) {
             for (int dx = 0; dx < wide; dx++) {
                 if (sight.isMoved(first, dx, dy)) {
@@ -443,10 +443,10 @@ public final class DraftHouse {
         return count;
     }
 
-    /** The first PICK with a CELL that is UP, 0 without: bare rows would fit nearly everywhere. */
-    private int firstPickUp() {
+    /** The first PICK that is best compared first: rows that are all alike fit however they are moved. */
+    private int firstMixedPick() {
         for (int pick = 0; pick < high; pick++) {
-            if (cloth.rows[pick] != 0L) {
+            if (cloth.rows[pick] != 0L && cloth.rows[pick] != cloth.allEnds) {
                 return pick;
             }
         }
@@ -1687,7 +1687,7 @@ public final class DraftHouse {
             this.cloth = cloth;
         }
 
-        private void record(int pick, long row) {
+        private void noteRow(int pick, long row) {
             if (pick < 0 || pick >= MOST_THREADS) {
                 return;
             }
