@@ -59,15 +59,7 @@ public final class PromiseTests {
     }
 
     private static void put(DraftHouse x, String text) {
-        x.end(0);
-        for (int from = 0; from < text.length(); from += 20) {
-            int[] words = new int[5];
-            for (int i = 0; i < 20 && from + i < text.length(); i++) {
-                words[i / 4] |= (text.charAt(from + i) & 255) << 24 - i % 4 * 8;
-            }
-            x.feed(words[0], words[1], words[2], words[3], words[4]);
-        }
-        due("end of a text", x.end(text.length()), text.length());
+        due("the tape has all of " + text, Tapes.put(x, text), true);
     }
 
     private static int tell(DraftHouse x, String text) {
