@@ -5,6 +5,7 @@ public final class ClothBounds {
     private static final int[] SIZES = {1, 2, 3, 47, 48};
 
     public static void main(String[] args) {
+        askedFirst();
         rows();
         leads();
         warpFloats();
@@ -14,6 +15,8 @@ public final class ClothBounds {
         partsOfFullCloths();
         strands();
         holding();
+        chains();
+        partsInTurn();
         refusedParts();
         cellColours();
         colouredCells();
@@ -65,6 +68,52 @@ public final class ClothBounds {
         return text.toString();
     }
 
+    private static final Sentences.Call[] QUESTIONS = {
+        x -> x.shaft(0), x -> x.shaft(1), x -> x.lift(0), x -> x.lift(1), x -> x.row(0), x -> x.row(1), x -> x.lead(0, 0, 0),
+        x -> x.lead(0, 0, 1), x -> x.lead(0, 0, 2), x -> x.lead(1, 1, 3), x -> x.longest(true, false),
+        x -> x.longest(true, true), x -> x.longest(false, false), x -> x.longest(false, true), x -> x.floats(true, false, 0),
+        x -> x.floats(true, true, 1), x -> x.floats(false, false, 1), x -> x.floats(false, true, 0),
+        x -> x.layers(0, 2, 0, 2), x -> x.layer(0, 2, 0, 2, 0), x -> x.layer(0, 1, 0, 2, 3), x -> x.seenColour(0, 0),
+        x -> x.seenColour(1, 1), x -> x.coloured(0), x -> x.coloured(5), x -> x.period(true, false), x -> x.period(true, true),
+        x -> x.period(false, false), x -> x.period(false, true), x -> x.fewest(true), x -> x.fewest(false),
+        x -> x.pegs(true), x -> x.pegs(false), x -> x.cover(-1), x -> x.cover(0), x -> x.wrong(0), x -> x.wrong(2),
+        x -> x.nearest(0, 0), x -> x.nearest(0, 1), x -> x.mended(0), x -> x.mended(1), x -> x.mended(2),
+        x -> x.mendedShaft(0), x -> x.mendedShaft(2), x -> x.shifted(true), x -> x.shifted(false), x -> x.about(5),
+        x -> x.about(7)};
+
+    /** What may change the answers. */
+    private static final Sentences.Call[] CHANGES = {
+        x -> x.thread(0, -1), x -> x.thread(2, 0), x -> x.tie(0, 6), x -> x.tie(1, 0), x -> x.tread(0, 3), x -> x.tread(1, 0),
+        x -> x.colour(true, 0, 5), x -> x.colour(false, 1, 5), x -> Tapes.tell(x, "thread 1; tread 0;"),
+        x -> x.look(0) ? 1 : 0, x -> x.look(1) ? 1 : 0, x -> x.seen(0, 7) ? 1 : 0, x -> x.seen(2, 2) ? 1 : 0};
+
+    private static DraftHouse diagonal() {
+        DraftHouse x = new DraftHouse(3, 3);
+        Tapes.tell(x, "thread 0 to 2; tread 0 to 2; tie 0 0; tie 1 1; tie 2 2;");
+        x.colour(true, 1, 5);
+        x.tie(2, 5);
+        x.seen(1, 2);
+        return x;
+    }
+
+    /** Each question comes first behind each change, of an object that was asked all ahead of it. */
+    private static void askedFirst() {
+        Sentences.says("all is as it was told latest at or ahead of it");
+        for (int c = 0; c < CHANGES.length; c++) {
+            for (int q = 0; q < QUESTIONS.length; q++) {
+                DraftHouse asked = diagonal();
+                for (Sentences.Call question : QUESTIONS) {
+                    question.on(asked);
+                }
+                CHANGES[c].on(asked);
+                DraftHouse fresh = diagonal();
+                CHANGES[c].on(fresh);
+                fresh.row(0);
+                due("question " + q + " behind change " + c, QUESTIONS[q].on(asked), QUESTIONS[q].on(fresh));
+            }
+        }
+    }
+
     private static void rows() {
         Sentences.says("CELLS of a PICK that are UP, as bits by ENDS");
         for (int wide : SIZES) {
@@ -95,6 +144,20 @@ public final class ClothBounds {
             due("lead 1 by " + low, x.lead(0, 0, 1), low);
             x.tread(0, 65535 ^ 1 << low);
             due("lead 1 without " + low, x.lead(0, 0, 1), low == 15 ? -1 : 15);
+        }
+        for (int size : SIZES) {
+            // the last CELL alone has both an END with a SHAFT and a PICK with a TREAD
+            for (int shaft : new int[] {0, 1, 15}) {
+                DraftHouse x = new DraftHouse(size, 49 - size);
+                x.thread(size - 1, shaft);
+                x.tie(6, 1 << shaft);
+                x.tread(48 - size, 64);
+                due("0 of the last CELL", x.lead(size - 1, 48 - size, 0), shaft);
+                due("1 of the last CELL", x.lead(size - 1, 48 - size, 1), 6);
+                due("1 of the first CELL", x.lead(0, 0, 1), -1);
+                x.tie(6, 65535 ^ 1 << shaft);
+                due("1 of the last CELL, by other SHAFTS", x.lead(size - 1, 48 - size, 1), -1);
+            }
         }
         Sentences.says("the TIME at which the END's SHAFT, the PICK's TREAD was told (NONE: never, by THE LOOK)");
         DraftHouse x = new DraftHouse(2, 2);
@@ -290,6 +353,90 @@ public final class ClothBounds {
         due("the last END", chain.layer(0, 15, 0, 15, 15), 0);
     }
 
+    /** END 0 above PICK 0 above END 1 above PICK 1 and so on; or with the ENDS told from the last one on. */
+    private static DraftHouse stairs(boolean turned) {
+        DraftHouse x = new DraftHouse(16, 16);
+        Tapes.tell(x, turned ? "thread 15 to 0;" : "thread 0 to 15;");
+        for (int pick = 0; pick < 16; pick++) {
+            x.tie(pick, (1 << pick + 1) - 1);
+            x.tread(pick, 1 << pick);
+        }
+        return x;
+    }
+
+    private static void chains() {
+        Sentences.says("STRANDS of the part each of which is ABOVE the other by some chain");
+        for (boolean turned : new boolean[] {false, true}) {
+            DraftHouse apart = stairs(turned);
+            due("stairs", apart.layers(0, 15, 0, 15), 32);
+            for (int i = 0; i < 16; i++) {
+                due("END " + i, apart.layer(0, 15, 0, 15, turned ? 15 - i : i), 2 * i);
+                due("PICK " + i, apart.layer(0, 15, 0, 15, 16 + i), 2 * i + 1);
+            }
+            // a lower PICK is laid above a higher END: all between them hold, by one chain that goes through all
+            for (int top : new int[] {0, 1, 7, 14, 15}) {
+                for (int low : new int[] {0, 1, 8, 14, 15}) {
+                    if (top <= low) {
+                        dueStairs(turned, top, low);
+                    }
+                }
+            }
+        }
+    }
+
+    private static void dueStairs(boolean turned, int top, int low) {
+        DraftHouse x = stairs(turned);
+        x.tie(low, (1 << low + 1) - 1 & ~(1 << top));
+        String of = " of stairs from " + top + " to " + low;
+        int held = top == low ? 1 : 2 * (low - top + 1);
+        due("layers" + of, x.layers(0, 15, 0, 15), 32 - held + 1);
+        for (int i = 0; i < 16; i++) {
+            int end = x.layer(0, 15, 0, 15, turned ? 15 - i : i);
+            int pick = x.layer(0, 15, 0, 15, 16 + i);
+            if (top == low) {
+                // the two have changed their places; then this END and the next one are both on top: first the lowest
+                boolean later = turned && top < 15;
+                due("END " + i + of, end, i == top ? 2 * i + (later ? 2 : 1) : 2 * i - (i == top + 1 && later ? 1 : 0));
+                due("PICK " + i + of, pick, i == top ? 2 * i : 2 * i + 1);
+            } else {
+                due("END " + i + of, end, i < top ? 2 * i : i > low ? 2 * i - held + 1 : 2 * top);
+                due("PICK " + i + of, pick, i < top ? 2 * i + 1 : i > low ? 2 * i + 1 - held + 1 : 2 * top);
+            }
+        }
+        // without the END that the chain goes back to, all fall apart
+        int first = turned ? 15 - top : top;
+        if (first == 0) {
+            due("without its END" + of, x.layers(1, 15, 0, 15), 31);
+        } else if (first == 15) {
+            due("without its END" + of, x.layers(0, 14, 0, 15), 31);
+        }
+        if (low == 15) {
+            due("without its PICK" + of, x.layers(0, 15, 0, 14), 31);
+        }
+    }
+
+    /** The same object is asked for parts that have three of their four bounds in common with the part ahead. */
+    private static void partsInTurn() {
+        Sentences.says("In a part of THE CLOTH (ENDS from a to b, PICKS from c to d, all both too)");
+        int[][] parts = {{0, 15, 0, 15}, {0, 14, 0, 15}, {0, 15, 0, 15}, {0, 15, 0, 14}, {0, 15, 0, 15}, {1, 15, 0, 15},
+            {0, 15, 0, 15}, {0, 15, 1, 15}, {0, 15, 0, 15}, {4, 4, 4, 4}, {4, 5, 4, 4}, {4, 5, 4, 5}, {3, 5, 4, 5}, {3, 5, 3, 5},
+            {3, 3, 3, 5}, {3, 3, 3, 3}, {0, 0, 0, 0}, {0, 15, 0, 15}};
+        for (boolean turned : new boolean[] {false, true}) {
+            DraftHouse asked = stairs(turned);
+            asked.tie(12, 4094);
+            for (int[] p : parts) {
+                DraftHouse fresh = stairs(turned);
+                fresh.tie(12, 4094);
+                due("layers", asked.layers(p[0], p[1], p[2], p[3]), fresh.layers(p[0], p[1], p[2], p[3]));
+                for (int strand : new int[] {0, 3, 4, 5, 15, 16, 19, 20, 21, 31}) {
+                    due("layer of " + strand, asked.layer(p[0], p[1], p[2], p[3], strand),
+                        fresh.layer(p[0], p[1], p[2], p[3], strand));
+                }
+                due("layers again", asked.layers(p[0], p[1], p[2], p[3]), fresh.layers(p[0], p[1], p[2], p[3]));
+            }
+        }
+    }
+
     private static DraftHouse rich() {
         DraftHouse x = new DraftHouse(4, 3);
         Tapes.tell(x, "thread 0 to 2; tie 0 0,1; tie 1 1,2; tie 2 2,0; tread 0 to 2;");
@@ -410,6 +557,22 @@ public final class ClothBounds {
                 due("CELLS along PICKS", y.period(false, false), 1);
             }
         }
+        // the END's COLOUR and the PICK's are like, where CELLS aren't; and the other way round
+        DraftHouse mixed = diagonal();
+        due("CELLS", mixed.period(true, false), 3);
+        for (int i = 0; i < 3; i++) {
+            mixed.colour(true, i, 6);
+            mixed.colour(false, i, 6);
+        }
+        due("COLOURS along ENDS", mixed.period(true, true), 1);
+        due("COLOURS along PICKS", mixed.period(false, true), 1);
+        mixed.colour(false, 2, 9);
+        due("COLOURS along ENDS, the last PICK unlike", mixed.period(true, true), 2);
+        due("COLOURS along PICKS, the last PICK unlike", mixed.period(false, true), 3);
+        mixed.colour(false, 2, 6);
+        mixed.colour(true, 2, 9);
+        due("COLOURS along ENDS, the last END unlike", mixed.period(true, true), 3);
+        due("COLOURS along PICKS, the last END unlike", mixed.period(false, true), 3);
         // each two of the ten COLOURS are unlike
         for (int a = 0; a < 10; a++) {
             for (int b = 0; b < 10; b++) {
@@ -587,6 +750,10 @@ public final class ClothBounds {
         dueCover("five of three, all in common", lifted(3, 5, 6, 7, 1), 1, 2, 4);
         dueCover("three by what two each have in common", lifted(7, 11, 13), 3, 5, 9);
         dueCover("three by three of their own", lifted(3, 6, 12), 3, 6, 12);
+        // all 31 choices of five LIFTS have unlike sets in common
+        dueCover("31 sets in common", lifted(62, 61, 59, 55, 47), 35, 44, 53, 58);
+        dueCover("31 sets in common on 16 SHAFTS", lifted(43895, 52667, 61917, 65054, 65504), 43895, 52667, 61917, 65054, 65504);
+        dueCover("31 sets in common on 16 SHAFTS", lifted(61141, 56755, 48015, 30847, 2047), 2047, 30847, 48015, 56755, 61141);
         Sentences.says("of like many the first by their sets as numbers, put by rising ones");
         dueCover("1, 2, 4 ahead of 3, 5, 6", lifted(3, 5, 6, 7), 1, 2, 4);
         dueCover("rising", lifted(16, 8, 4, 2, 1), 1, 2, 4, 8, 16);

@@ -48,6 +48,8 @@ public final class ModelRuns {
         final Model model;
         final List<String> calls = new ArrayList<>();
         final int maxShaft;
+        /** Such a run asks and tells mostly at the bounds. */
+        final boolean edgy;
 
         Run(int seed) {
             this(seed, 1 + seed * 7 % (seed % 5 == 4 ? 48 : seed % 5 == 3 ? 14 : 6), 1 + seed * 11 % (seed % 5 > 2 ? 48 : 7));
@@ -61,6 +63,7 @@ public final class ModelRuns {
             house = new DraftHouse(wide, high);
             model = new Model(wide, high);
             maxShaft = 1 + random.nextInt(16);
+            edgy = seed % 7 == 3;
         }
 
         void same(String call, long got, long want) {
@@ -140,6 +143,10 @@ public final class ModelRuns {
 
         /** Mostly 0 to n - 1, at times a little or far outside. */
         int near(int n) {
+            if (edgy && random.nextInt(3) == 0) {
+                int[] edges = {-2, -1, 0, 1, n - 2, n - 1, n, n + 1, Integer.MIN_VALUE, Integer.MAX_VALUE};
+                return edges[random.nextInt(edges.length)];
+            }
             int dice = random.nextInt(60);
             if (dice == 0) {
                 return -1;

@@ -22,6 +22,7 @@ public final class TextBounds {
         sums();
         mirrors();
         backs();
+        bareBrackets();
         brackets();
         blocks();
         rowsAlongEnds();
@@ -233,6 +234,13 @@ public final class TextBounds {
         dueFault("block 1=5;", 1, 6);
         dueFault("block to=5;", 1, 6);
         dueFault("block =5;", 1, 6);
+        Sentences.says("or a LETTER (its block)");
+        DraftHouse y = new DraftHouse(9, 1);
+        due("blocks of several numbers", Tapes.tell(y, "block H=1 to 3;block A=H*2,9;block B=back(A);thread B,H;"), 1);
+        int[] numbers = {9, 3, 2, 1, 3, 2, 1, 1, 2};
+        for (int end = 0; end < 9; end++) {
+            due("shaft(" + end + ") by blocks", y.shaft(end), numbers[end]);
+        }
         // all eight at once
         StringBuilder text = new StringBuilder();
         for (int i = 0; i < 8; i++) {
@@ -392,6 +400,16 @@ public final class TextBounds {
         dueRow("back(1,back(2,3),4)", 4, 2, 3, 1);
         dueFault("thread back();", 1, 12);
         dueFault("thread back 1;", 1, 12);
+    }
+
+    private static void bareBrackets() {
+        Sentences.says("or ( ROW )");
+        dueRow("(5)", 5);
+        dueRow("(15,0)", 15, 0);
+        dueRow("9,(5,6),8", 9, 5, 6, 8);
+        dueRow("((((((((5,6))))))))", 5, 6);
+        dueRow("((1,2)*2,3)*2,4", 1, 2, 1, 2, 3, 1, 2, 1, 2, 3, 4);
+        dueRow("(1),((2),3),(4 to 6)*1", 1, 2, 3, 4, 5, 6);
         dueFault("thread ();", 1, 8);
         dueFault("thread (1;", 1, 9);
         dueFault("thread 1);", 1, 8);
@@ -686,6 +704,12 @@ public final class TextBounds {
         dueTaken("thread " + nested + ")".repeat(8) + ";");
         String more = "(7*24,".repeat(7) + "(7*33";
         dueFault("thread " + more + ")".repeat(8) + ";", 5, 7 + more.length() + 6);
+        // nine ROWS are open, and all but the last one have 200 numbers already
+        String full = "thread " + (row(200) + ",(").repeat(8);
+        dueFault(full + "1))", 5, full.length() + 1);
+        dueFault(full + row(200) + ")", 5, full.length() + row(200).length());
+        dueFault(full + row(201) + ")", 5, full.length() + row(201).length() - 1);
+        dueFault(full + "1", 1, full.length() + 1);
         // ROWS side by side in one that isn't too long itself
         dueTaken("thread (" + row(100) + "),(" + row(100) + ");");
         dueFault("thread (" + row(100) + "),(" + row(101) + ");", 5, 7 + 1 + row(100).length() + 3 + row(101).length());
@@ -802,6 +826,21 @@ public final class TextBounds {
         Sentences.refusedText(good + "tie 1 A;", TextBounds::told, 4, at + 6);
         Sentences.refusedText(good + "block A=1;block A=1;", TextBounds::told, 4, at + 16);
         Sentences.refusedText(good + "tie 1 " + row(201) + ";", TextBounds::told, 5, at + 6 + row(201).length() - 1);
+        // nor by what is told behind it
+        for (String fault : new String[] {"x", "tie 16 1;", "tie 1 H;", "tie 1 " + row(201) + ";", "tread 0;".repeat(20) + "("}) {
+            DraftHouse x = told();
+            int entries = x.about(4);
+            due("a faulty text", Tapes.tell(x, good + fault), -1);
+            due("a telling by hand", x.tie(3, 1), 5);
+            due("ENTRIES", x.about(4), entries + 1);
+            due("shaft(0)", x.shaft(0), 0);
+            due("lift(0)", x.lift(0), 3);
+            due("a faulty text", Tapes.tell(x, good + fault), -1);
+            due("a text", Tapes.tell(x, "tie 3 2;"), 6);
+            due("ENTRIES", x.about(4), entries + 2);
+            due("shaft(0)", x.shaft(0), 0);
+            due("lift(0)", x.lift(0), 3);
+        }
         Sentences.refusedText("\u0000", TextBounds::told, 1, 0);
         Sentences.refusedText("\u00ff", TextBounds::told, 1, 0);
     }
