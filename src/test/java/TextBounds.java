@@ -410,6 +410,13 @@ public final class TextBounds {
         dueRow("((((((((5,6))))))))", 5, 6);
         dueRow("((1,2)*2,3)*2,4", 1, 2, 1, 2, 3, 1, 2, 1, 2, 3, 4);
         dueRow("(1),((2),3),(4 to 6)*1", 1, 2, 3, 4, 5, 6);
+        // beside and within other brackets it is bare too
+        dueRow("back(1,2),(3,4)", 2, 1, 3, 4);
+        dueRow("plus 3(1,2),(3,4)", 4, 5, 3, 4);
+        dueRow("mirror(1,2,3),(4,5,6)", 1, 2, 3, 2, 4, 5, 6);
+        dueRow("back((1,2),3)", 3, 2, 1);
+        dueRow("plus 3((1,2),3)", 4, 5, 6);
+        dueRow("mirror((1,2,3),4)", 1, 2, 3, 4, 3, 2);
         dueFault("thread ();", 1, 8);
         dueFault("thread (1;", 1, 9);
         dueFault("thread 1);", 1, 8);
@@ -827,7 +834,8 @@ public final class TextBounds {
         Sentences.refusedText(good + "block A=1;block A=1;", TextBounds::told, 4, at + 16);
         Sentences.refusedText(good + "tie 1 " + row(201) + ";", TextBounds::told, 5, at + 6 + row(201).length() - 1);
         // nor by what is told behind it
-        for (String fault : new String[] {"x", "tie 16 1;", "tie 1 H;", "tie 1 " + row(201) + ";", "tread 0;".repeat(20) + "("}) {
+        for (String fault : new String[] {"x", "tie 16 1;", "tie 1 H;", "tie 1 " + row(201) + ";", "tie 1 ((1,(2",
+            "tie 1 (((((((((", "tread 0;".repeat(20) + "("}) {
             DraftHouse x = told();
             int entries = x.about(4);
             due("a faulty text", Tapes.tell(x, good + fault), -1);
@@ -836,7 +844,7 @@ public final class TextBounds {
             due("shaft(0)", x.shaft(0), 0);
             due("lift(0)", x.lift(0), 3);
             due("a faulty text", Tapes.tell(x, good + fault), -1);
-            due("a text", Tapes.tell(x, "tie 3 2;"), 6);
+            due("a text", Tapes.tell(x, "tie 3 ((((((((2))))))));"), 6);
             due("ENTRIES", x.about(4), entries + 2);
             due("shaft(0)", x.shaft(0), 0);
             due("lift(0)", x.lift(0), 3);
