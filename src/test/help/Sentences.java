@@ -81,7 +81,7 @@ final class Sentences {
         }
     }
 
-    /** All that can be seen of an object; the tape comes last, as it is read as a text for it. */
+    /** What is to see of an object's first threads, at four TIMES; the tape comes last, as it is read as a text for it. */
     private static List<Long> all(DraftHouse x, boolean withFault) {
         List<Long> found = new ArrayList<>();
         for (int what = 0; what < 8; what++) {
