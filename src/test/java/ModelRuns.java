@@ -9,6 +9,7 @@ import java.util.TreeSet;
 public final class ModelRuns {
     private static final int RUNS = 500;
     private static final int COVERS = 1500;
+    private static final int CROWDED_COVERS = 200;
     private static int wrong = 0;
     /** How often each kind of answer came, so that a run that tests nothing is noticed. */
     private static final java.util.TreeMap<String, Integer> MET = new java.util.TreeMap<>();
@@ -19,6 +20,9 @@ public final class ModelRuns {
         }
         for (int seed = 0; seed < COVERS && wrong < 20; seed++) {
             new Run(seed, 16, 5).goForCover();
+        }
+        for (int seed = 0; seed < CROWDED_COVERS && wrong < 20; seed++) {
+            new Run(seed, 16, 5).goForCrowdedCover();
         }
         for (String due : new String[] {"fault 0", "fault 1", "fault 2", "fault 3", "fault 4", "fault 5", "text none, fault 0",
             "cover none", "cover 0", "cover 1", "cover 2", "cover 3", "cover 4", "cover 5", "mended -2", "mended 0", "mended by tie",
@@ -137,6 +141,27 @@ public final class ModelRuns {
             }
             for (int p = 0; p < high; p++) {
                 note(house.tread(p, 1 << p % lifts), model.tread(p, 1 << p % lifts), "tread(" + p + ", " + (1 << p % lifts) + ")");
+            }
+            askCover();
+        }
+
+        /** Five LIFTS, and each SHAFT in at least so many of them: there are the most TIES to choose from. */
+        void goForCrowdedCover() {
+            int[] lifts = new int[5];
+            int least = 1 + seed % 3;
+            for (int s = 0; s < 16; s++) {
+                int among = random.nextInt(32);
+                for (int tries = 0; tries < 1000 && Integer.bitCount(among) < least; tries++) {
+                    among = random.nextInt(32);
+                }
+                for (int t = 0; t < lifts.length; t++) {
+                    lifts[t] |= (among >> t & 1) << s;
+                }
+                note(house.thread(s, s), model.thread(s, s), "thread(" + s + ", " + s + ")");
+            }
+            for (int t = 0; t < lifts.length; t++) {
+                note(house.tie(t, lifts[t]), model.tie(t, lifts[t]), "tie(" + t + ", " + lifts[t] + ")");
+                note(house.tread(t, 1 << t), model.tread(t, 1 << t), "tread(" + t + ", " + (1 << t) + ")");
             }
             askCover();
         }

@@ -998,6 +998,8 @@ public final class PromiseTests {
         dueCover(lifted(1, 2, 4, 8, 16), 1, 2, 4, 8, 16);
         dueCover(lifted(1, 2, 3, 1, 2, 3, 0, 5, 6), 1, 2, 4);
         dueCover(lifted(65535, 32767, 32768), 32767, 32768);
+        // each of the 16 SHAFTS lies in three or more of the five LIFTS, no two of them in the same ones
+        dueCover(lifted(43895, 52667, 61917, 65054, 65504), 43895, 52667, 61917, 65054, 65504);
         DraftHouse six = lifted(1, 2, 4, 8, 16, 32);
         due("six LIFTS", six.cover(-1), -1);
         due("six LIFTS", six.cover(0), -1);
